@@ -1309,9 +1309,12 @@ public final class HillRider {
         /** From the fewest seconds by each store ahead of a piece to those behind it. */
         private void spreadBy(int piece, int effort, int[] here, int[] beyond) {
             for (int ahead = 0; ahead <= store && ahead < here.length; ahead++) {
+                if (here[ahead] < 0) {
+                    continue;
+                }
                 int step = step(piece, effort, ahead);
                 int behind = stepBehind[step];
-                if (here[ahead] < 0 || behind < 0 || behind >= beyond.length) {
+                if (behind < 0 || behind >= beyond.length) {
                     continue;
                 }
                 int seconds = here[ahead] + stepSeconds[step];

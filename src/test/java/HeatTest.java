@@ -95,6 +95,10 @@ public final class HeatTest {
         // behind the first 5 (cold) or 0 (hot), each 2 seconds; the second 5 seconds
         // cold and cold: 10, so 2 seconds; cold and hot: 5: 2, hot 4; hot and cold: 5; hot and hot: 0: 3
         mean(x, 0, 39, 4);
+        sure(x, 0, 9999, 1, 1);
+        Due.road(x, "piece 1 5 5");
+        mean(x, 0, 2, 1);
+        sure(x, 0, 9999, 1, 1);
     }
 
     private static void gears() {

@@ -237,6 +237,9 @@ public final class RoadTest {
         due.be("two hold", x.rides(0, 0, 3, 0), 13);
         due.be("one holds", x.rides(0, 0, 2, 0), 14);
         due.be("1 at least", x.rides(0, 5, 3, 0), 1);
+        Due.road(x, "piece 1 5 5;ease 3 e=0");
+        due.be("the eases of the road before are gone", x.rides(0, 5, 3, 0), 40);
+        due.be("its own holds", x.rides(0, 0, 3, 0), 17);
     }
 
     private static void storesBehind() {
