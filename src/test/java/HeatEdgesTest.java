@@ -11,7 +11,8 @@ public final class HeatEdgesTest {
         edges.test("==== 3", "an EFFORT above bar costs twice as much there then", HeatEdgesTest::terms3AboveBarTwice);
         edges.test("==== 3", "and else nothing comes back", HeatEdgesTest::terms3NothingComesBack);
         edges.test("==== 3", "if the STORE would be below 0, it is 0", HeatEdgesTest::terms3StoreIs0);
-        edges.test("==== 3", "if the STORE would be below 0, it is 0, and the PIECE takes twice the SECONDS", HeatEdgesTest::terms3TwiceTheSeconds);
+        edges.test("==== 3", "if the STORE would be below 0, it is 0, and the PIECE takes twice the SECONDS",
+            HeatEdgesTest::terms3TwiceTheSeconds);
         edges.test("==== 3", "A WAY takes what it would without. MEAN", HeatEdgesTest::terms3TakesWhatItWouldWithout);
         edges.test("==== 3", "a fraction in lowest terms", HeatEdgesTest::terms3LowestTerms);
         edges.test("==== 3", "SURE: how likely they are no more than t.", HeatEdgesTest::terms3NoMoreThanT);

@@ -25,7 +25,8 @@ public final class ImageEdgesTest {
         edges.test("==== 3", "(but THE IMAGE and THE TRACE)", ImageEdgesTest::terms3ButTheImageAndTheTrace);
         edges.test("Promise 27", "0 PIECES, 1 WAYS, 2 ROADS, 3 EFFORTS of the ROW, 4 bytes of THE TAPE", ImageEdgesTest::promise27Counts);
         edges.test("Promise 27", "5 bodies that ran in the latest act() (all, kept or not). NONE.", ImageEdgesTest::promise27None);
-        edges.test("==== 4", "REFUSALS, of several the first one told", ImageEdgesTest::terms4TheFirstOneTold);
+        edges.test("==== 4", "REFUSALS, of several the first one told: NONE there is no such PIECE, WAY, KIND, what, part, i; "
+            + "BAD a number is not as told; STATE there are no PIECES, or as told; FULL.", ImageEdgesTest::terms4TheFirstOneTold);
         edges.test("==== 4", "They change nothing.", ImageEdgesTest::terms4TheyChangeNothing);
         edges.test("==== 4", "The constants: `NO = Long.MIN_VALUE`: There is no such number.", ImageEdgesTest::terms4Constants);
         edges.test("What it is", "An object is used for at most 512 calls after it has been made", ImageEdgesTest::whatItIs512Calls);
@@ -126,6 +127,9 @@ public final class ImageEdgesTest {
         told.line(5, 0, 1);
         told.undo();
         due.be("line behind two undos", told.line(5, 0, 1), 7);
+        // what was worked out on another road counts no more
+        looksAlike(due, "what is worked out", () -> undone(x -> Due.road(x, "4;piece 9 9 9;store 9") + x.soonest(0, 9, 0)
+            + x.gears(4, 0) + x.ride(3, 0)), ImageEdgesTest::imaged);
     }
 
     private static void terms3FromFullAndToFull(Due due) {

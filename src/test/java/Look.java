@@ -62,6 +62,12 @@ final class Look {
                 add(x.rides(piece, 9, store, 2));
             }
         }
+        add(x.soonest(0, 9, 0));
+        add(x.soonest(0, 9, 1));
+        add(x.gears(2, 0));
+        add(x.by(512));
+        add(x.ride(0, 0));
+        add(x.mean(0, 0));
     }
 
     private void trace() {

@@ -2,6 +2,9 @@ import java.io.IOException;
 
 /** Promises 4 to 6: what a road tells of its pieces and of itself, and what an effort does on a piece. */
 public final class PieceEdgesTest {
+    /** What is told of a road of one piece without other clauses. */
+    private static final int[] WITHOUT = {1, 4, 20, 5, 0};
+
     private PieceEdgesTest() {
     }
 
@@ -81,12 +84,19 @@ public final class PieceEdgesTest {
         due.refuse(Made::roadless, -1, y -> y.told(-1), y -> y.told(5));
         due.be("the most PIECES", Made.eight("piece 1 5 5", "").told(0), 8);
         due.be("no ROAD, no PIECES", Made.roadless().told(0), 0);
+        for (int what = 1; what < 5; what++) {
+            due.be("no ROAD: as one without clauses, " + what, Made.roadless().told(what), WITHOUT[what]);
+        }
     }
 
     private static void setting(Due due, String word, int what, int without, int most) {
         due.be("without " + word, Due.on("piece 1 5 5").told(what), without);
         for (int n = 0; n <= 99; n++) {
-            due.be(word + " " + n, Due.on("piece 1 5 5;" + word + " " + n).told(what), Math.min(n, most));
+            HillRider x = Due.on("piece 1 5 5;" + word + " " + n);
+            due.be(word + " " + n, x.told(what), Math.min(n, most));
+            for (int other = 0; other < 5; other++) {
+                due.be("what else is told", x.told(other), other == what ? Math.min(n, most) : WITHOUT[other]);
+            }
         }
     }
 
@@ -233,6 +243,10 @@ public final class PieceEdgesTest {
                     holds(due, t[0] + "&" + t[1] + "|" + t[2], a & b | c);
                     holds(due, "(" + t[0] + "|" + t[1] + ")&" + t[2], (a | b) & c);
                     holds(due, t[0] + "&(" + t[1] + "|" + t[2] + ")", a & (b | c));
+                    holds(due, t[0] + "&(" + t[1] + "&" + t[2] + ")", a & b & c);
+                    holds(due, t[0] + "|(" + t[1] + "|" + t[2] + ")", a | b | c);
+                    holds(due, t[0] + "&(" + t[1] + "&(" + t[2] + "|" + t[0] + "))", a & b);
+                    holds(due, t[0] + "|" + t[1] + "&(" + t[2] + "&(" + t[1] + "|" + t[0] + "))", a | b & c);
                     holds(due, "!" + t[0] + "&" + t[1] + "|" + t[2], !a & b | c);
                     holds(due, "!(" + t[0] + "&" + t[1] + "|" + t[2] + ")", !(a & b | c));
                     holds(due, "!(" + t[0] + "|" + t[1] + ")&" + t[2], !(a | b) & c);

@@ -80,6 +80,10 @@ public final class RideEdgesTest {
             due.be("as the soonest's first", x.takes(0, 0, store), x.soonest(0, store, 10));
         }
         due.be("what is on the first", x.takes(0, 0, 5), 4);
+        HillRider ridden = Due.on("piece 1 5 5;piece 1 9 9;store 5");
+        ridden.way(3, 0);
+        due.be("the first that is asked", ridden.ride(0, 0), 3 + 4);
+        due.be("on the second", ridden.ride(0, 11), 9);
     }
 
     private static void terms2ToldOrAsSloped(Due due) {

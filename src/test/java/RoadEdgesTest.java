@@ -31,9 +31,11 @@ public final class RoadEdgesTest {
         edges.test("==== 1", "(the size, if it ends too early)", RoadEdgesTest::terms1FaultTheSize);
         edges.test("==== 1", "ROADS are numbered from 0 on, 5 at most", RoadEdgesTest::terms1Roads5AtMost);
         edges.test("==== 1", "the newest one holds", RoadEdgesTest::terms1TheNewestHolds);
+        edges.test("==== 1", "the newest one holds", RoadEdgesTest::terms1TheNewestHoldsInAllAnswers);
         edges.test("==== 1", "without one there are no PIECES", RoadEdgesTest::terms1NoPiecesWithoutARoad);
         edges.test("Promise 3", "THE TAPE, which is empty then (by a FAULT, too)", RoadEdgesTest::promise3TapeEmptyThen);
-        edges.test("Promise 3", "its number; -10 less the FAULT", RoadEdgesTest::promise3NumberOrFault);
+        edges.test("Promise 3", "THE TAPE, which is empty then (by a FAULT, too)", RoadEdgesTest::promise3NothingOfTheTapeBefore);
+        edges.test("Promise 3", "is a ROAD, and holds: its number; -10 less the FAULT", RoadEdgesTest::promise3NumberOrFault);
         edges.test("Promise 3", "(the one that held holds)", RoadEdgesTest::promise3TheOneThatHeldHolds);
         edges.test("Promise 3", "FULL (ahead of all; THE TAPE stays)", RoadEdgesTest::promise3FullAheadOfAll);
         edges.end();
@@ -306,6 +308,48 @@ public final class RoadEdgesTest {
         due.be("of(1, 0)", x.of(1, 0), -1);
         due.be("no ease", x.rides(0, 0, 20, 0), 20);
         due.be("soonest", x.soonest(0, 20, 0), 2);
+    }
+
+    /** What was worked out on a road before, or read from a tape before, counts no more. */
+    private static void terms1TheNewestHoldsInAllAnswers(Due due) {
+        String[] roads = {Made.pieces(8, PIECE), PIECE + ";" + PIECE, "piece 1 9 9;ease 7 r>9", "piece 9 9 9;piece 9 9 9;store 60;heat 5",
+            "piece 1 5 5;ease 9 e>1&e<9"};
+        HillRider x = new HillRider();
+        x.way(3, 0);
+        for (int i = 0; i < roads.length; i++) {
+            HillRider alone = Due.on(roads[i]);
+            alone.way(3, 0);
+            due.be("road", Due.road(x, roads[i]), i);
+            due.be("ride of BEST", x.ride(0, 0), alone.ride(0, 0));
+            due.be("the store at its end", x.ride(0, 1), alone.ride(0, 1));
+            due.be("by 0 and 9", x.by(512), alone.by(512));
+            due.be("by all", x.by(1023), alone.by(1023));
+            due.be("price", x.price(0, 5), alone.price(0, 5));
+            due.be("mean", x.mean(0, 0), alone.mean(0, 0));
+            for (int k = 1; k <= 4; k++) {
+                due.be("gears", x.gears(k, 0), alone.gears(k, 0));
+                due.be("their seconds", x.gears(k, 1), alone.gears(k, 1));
+            }
+        }
+    }
+
+    private static void promise3NothingOfTheTapeBefore(Due due) {
+        HillRider x = new HillRider();
+        due.be("a longer one", Due.road(x, "piece 1 5 5;bar 12;ease 1 e=0&e=0&e=0"), 0);
+        due.be("none", x.road(), -10);
+        due.be("less than its piece", Due.road(x, "piece 1 5 "), -20);
+        due.be("its piece alone", Due.road(x, "piece 1 5 5"), 1);
+        due.be("bar", x.told(1), 4);
+        due.be("one digit less", Due.road(x, "piece 1 5 5;bar 1"), 2);
+        due.be("bar", x.told(1), 1);
+        // many tapes with many tests, and one that counts
+        String faulty = "piece 1 5 5;ease 1 " + Made.pieces(19, "e>0").replace(';', '&') + "&";
+        for (int i = 0; i < 20; i++) {
+            due.be("a fault", Due.road(x, faulty), -10 - faulty.length());
+        }
+        due.be("a road", Due.road(x, "piece 1 5 5;ease 3 e=0"), 3);
+        due.be("its ease holds", x.rides(0, 0, 0, 0), 17);
+        due.be("by 1 it does not", x.rides(0, 1, 0, 0), 24);
     }
 
     private static void terms1NoPiecesWithoutARoad(Due due) {

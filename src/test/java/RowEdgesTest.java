@@ -59,6 +59,12 @@ public final class RowEdgesTest {
         due.be("it can't be", full.judged(0), 0);
         HillRider none = new HillRider();
         due.be("none, emptied", none.row(-1), 0);
+        // what a row had before it was empty counts no more
+        HillRider again = told(STORELESS, 9, 9, 0);
+        again.row(-1);
+        judged(due, again, -5, -5, -5, 0);
+        again.row(4);
+        judged(due, again, -5, 0, -5, 0);
     }
 
     private static void judged(Due due, HillRider x, int... wants) {
@@ -93,6 +99,7 @@ public final class RowEdgesTest {
         judged(due, told("piece 2 5 5;store 9", 9), 0, -5, -5, 0);
         judged(due, told("piece 2 5 5;store 10", 9), -5, 0, -5, 0);
         judged(due, told(FIVE), -5, -5, -5, 0);
+        judged(due, told(STORELESS), -5, -5, -5, 0);
     }
 
     private static void terms2Empty(Due due) {

@@ -17,6 +17,7 @@ public final class WheelEdgesTest {
         edges.test("Promise 20", "-5: there are fewer PIECES.", WheelEdgesTest::promise20FewerPieces);
         edges.test("Promise 20", "NONE; BAD; STATE.", WheelEdgesTest::promise20NoneBadState);
         edges.test("==== 3", "the second time with the STORE as it is at the end of the first", WheelEdgesTest::terms3SecondLap);
+        edges.test("==== 3", "SECONDS of the second lap less those of the first.", WheelEdgesTest::terms3SecondLessFirst);
         edges.test("==== 3", "(all else, PIECES' numbers, too, as the first time)", WheelEdgesTest::terms3NumbersAsTheFirstTime);
         edges.test("Promise 21", "-10001: NONE; -10002: STATE.", WheelEdgesTest::promise21NoneState);
         edges.end();
@@ -67,6 +68,9 @@ public final class WheelEdgesTest {
         // its SECONDS are those of the EFFORT that is taken
         wheel(due, with("piece 9 9 9", 1, 4), 1, 0, 0);
         wheel(due, with("piece 9 9 9;ease 9 e<3", 1, 4), 1, 0, 0);
+        // BEST takes 6 and 7 in 7 and 5; with a wheel it takes 6 still, and 9 then
+        wheel(due, with("piece 1 9 9;piece 1 9 9;store 5", 3, 0), 1, 0, 7 + 5 - (7 + 4));
+        due.be("asked first", with("piece 1 9 9;piece 1 9 9;store 5", 3, 0).wheel(0, 1, 1), 1);
         // off the wheel all is as without: by 4 nothing comes back
         wheel(due, with("piece 1 9 9;piece 1 9 9;piece 1 9 9;store 5", 1, 9), 1, 0, 4 + 13 + 13 - (4 + 7 + 13));
     }
@@ -114,17 +118,22 @@ public final class WheelEdgesTest {
         due.refuse(Made::full, -1, x -> x.wheel(8, 1, 1));
     }
 
-    private static void terms3SecondLap(Due due) {
+    private static void terms3SecondLessFirst(Due due) {
         // 2 and 13, then with no store 3 and 13
         due.be("slower", with("piece 1 5 5;piece 1 9 9;store 5", 1, 9).laps(0), 3 - 2);
-        // 10 of 20 are left and do for 9 and 9, but not 8 of 18
-        due.be("as fast", with("piece 1 5 5;piece 1 5 5;store 20", 1, 9).laps(0), 0);
-        due.be("one less fast", with("piece 1 5 5;piece 1 5 5;store 18", 1, 9).laps(0), 2 + 3 - 4);
         // a full store slows
         due.be("faster", with("piece 1 5 5;ease 15 r=20", 1, 9).laps(0), 2 - 3);
         due.be("nothing is spent", with("piece 1 5 5;ease 15 r=20", 0, 0).laps(0), 0);
+    }
+
+    private static void terms3SecondLap(Due due) {
+        // 10 of 20 are left and do for 9 and 9, but not 8 of 18
+        due.be("as fast", with("piece 1 5 5;piece 1 5 5;store 20", 1, 9).laps(0), 0);
+        due.be("one less fast", with("piece 1 5 5;piece 1 5 5;store 18", 1, 9).laps(0), 2 + 3 - 4);
         due.be("of no store", with("piece 1 5 5;store 0", 1, 9).laps(0), 0);
         due.be("by 6 with 2 of 7", with("piece 1 9 9;store 7", 1, 9).laps(0), 7 - 4);
+        // 4 and 9 in 3 and 4, then with no store 0 and 6 in 5 and 7
+        due.be("of BEST", with("piece 1 5 5;piece 1 9 9;store 5", 3, 0).laps(0), 5 + 7 - (3 + 4));
         due.be("of eight pieces", with(Made.pieces(8, "piece 1 9 9"), 1, 9).laps(0), 8 * 13 - 68);
     }
 
